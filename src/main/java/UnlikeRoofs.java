@@ -23,6 +23,7 @@ public final class UnlikeRoofs {
     private static final int[] DOWNWARD = {0, 0, 1, 0, -1};
 
     private final Text text;
+    private final Tokens tokens;
     private final Search search;
     private final Fire flames;
     private final Seen seen;
@@ -34,6 +35,7 @@ public final class UnlikeRoofs {
 
     public UnlikeRoofs() {
         text = new Text();
+        tokens = new Tokens();
         search = new Search();
         flames = new Fire();
         seen = new Seen();
@@ -62,7 +64,8 @@ public final class UnlikeRoofs {
 
     public int town() {
         draft.raze();
-        int items = Reader.readAll(text, draft);
+        tokens.split(text);
+        int items = Reader.readAll(tokens, draft);
         if (items < 0) {
             return items;
         }
@@ -393,26 +396,10 @@ public final class UnlikeRoofs {
         return big;
     }
 
-    /** The bytes that were typed and not yet read, and a look at their TOKENS, one at a time. */
+    /** The bytes that were typed and not yet read. */
     private static final class Text {
-        private static final int END = 0;
-        private static final int WRONG = 1;
-        private static final int STOP = 2;
-        private static final int NUMBER = 3;
-        private static final int SORT = 4;
-        private static final int HOUSE = 5;
-        private static final int ROOF = 6;
-        private static final int BOUND = 7;
-        private static final int WIND = 8;
-        /** The five winds follow, in the order of their numbers. */
-        private static final int CALM = 9;
-
         private final int[] bytes = new int[MOST_BYTES];
         private int length;
-        private int next;
-        private int start;
-        private int kind;
-        private int value;
 
         boolean append(long v, int n) {
             if (n < 1 || n > 8 || length > bytes.length - n) {
@@ -432,88 +419,123 @@ public final class UnlikeRoofs {
         }
 
         /** NONE behind the last byte. */
-        private int byteAt(int place) {
+        int byteAt(int place) {
             return place >= 0 && place < length ? bytes[place] : NONE;
         }
+    }
 
-        void rewind() {
+    /** The TOKENS of a text, an END behind them, and the one that is looked at. */
+    private static final class Tokens {
+        private static final int END = 0;
+        private static final int WRONG = 1;
+        private static final int STOP = 2;
+        private static final int NUMBER = 3;
+        private static final int SORT = 4;
+        private static final int HOUSE = 5;
+        private static final int ROOF = 6;
+        private static final int BOUND = 7;
+        private static final int WIND = 8;
+        /** The five winds follow, in the order of their numbers. */
+        private static final int CALM = 9;
+
+        /** A TOKEN has a byte at least, so there are no more of them than bytes; and END. */
+        private final int[] kinds = new int[MOST_BYTES + 1];
+        private final int[] values = new int[MOST_BYTES + 1];
+        private final int[] starts = new int[MOST_BYTES + 1];
+        private int size;
+        private int at;
+        private int start;
+        private int next;
+        private int value;
+
+        void split(Text text) {
+            size = 0;
+            at = 0;
             next = 0;
+            int kind = WRONG;
+            while (size < kinds.length && kind != END) {
+                value = 0;
+                kind = readOne(text);
+                kinds[size] = kind;
+                values[size] = value;
+                starts[size] = start;
+                size++;
+            }
         }
 
+        /** The last, END, is never left. */
         void advance() {
-            while (next < length && byteAt(next) == ' ') {
+            if (at < size - 1) {
+                at++;
+            }
+        }
+
+        int kind() {
+            return at < size ? kinds[at] : END;
+        }
+
+        int place() {
+            return at < size ? starts[at] : 0;
+        }
+
+        /** NONE if it is no NUMBER from least to most. */
+        int numberFrom(int least, int most) {
+            boolean fits = kind() == NUMBER && values[at] >= least && values[at] <= most;
+            return fits ? values[at] : NONE;
+        }
+
+        private int readOne(Text text) {
+            while (next < text.length && text.byteAt(next) == ' ') {
                 next++;
             }
             start = next;
-            int first = byteAt(start);
+            int first = text.byteAt(start);
             if (first == NONE) {
-                kind = END;
-            } else if (isLetter(first)) {
-                readWord();
-            } else if (isDigit(first)) {
-                readNumber();
-            } else {
-                next = start + 1;
-                kind = first == ';' ? STOP : WRONG;
+                return END;
             }
+            if (isLetter(first)) {
+                return readWord(text);
+            }
+            if (isDigit(first)) {
+                return readNumber(text);
+            }
+            next++;
+            return first == ';' ? STOP : WRONG;
         }
 
-        private void readWord() {
-            while (next < length && isLetter(byteAt(next))) {
+        private int readWord(Text text) {
+            while (next < text.length && isLetter(text.byteAt(next))) {
                 next++;
             }
-            kind = wordKind();
+            return spells(text, "sort") ? SORT
+                : spells(text, "house") ? HOUSE
+                : spells(text, "roof") ? ROOF
+                : spells(text, "bound") ? BOUND
+                : spells(text, "wind") ? WIND
+                : spells(text, "none") ? CALM
+                : spells(text, "right") ? CALM + 1
+                : spells(text, "down") ? CALM + 2
+                : spells(text, "left") ? CALM + 3
+                : spells(text, "up") ? CALM + 4
+                : WRONG;
         }
 
-        private void readNumber() {
-            value = 0;
-            while (next < length && isDigit(byteAt(next))) {
+        private int readNumber(Text text) {
+            while (next < text.length && isDigit(text.byteAt(next))) {
                 // 100 stands for all that is above 99, so a long row of digits can't wrap.
-                value = Math.min(100, value * 10 + byteAt(next) - '0');
+                value = Math.min(100, value * 10 + text.byteAt(next) - '0');
                 next++;
             }
-            boolean zeroAhead = byteAt(start) == '0' && next - start > 1;
-            kind = value > 99 || zeroAhead ? WRONG : NUMBER;
+            boolean zeroAhead = text.byteAt(start) == '0' && next - start > 1;
+            return value > 99 || zeroAhead ? WRONG : NUMBER;
         }
 
-        private int wordKind() {
-            if (spells("sort")) {
-                return SORT;
-            }
-            if (spells("house")) {
-                return HOUSE;
-            }
-            if (spells("roof")) {
-                return ROOF;
-            }
-            if (spells("bound")) {
-                return BOUND;
-            }
-            return spells("wind") ? WIND : windKind();
-        }
-
-        private int windKind() {
-            if (spells("none")) {
-                return CALM;
-            }
-            if (spells("right")) {
-                return CALM + 1;
-            }
-            if (spells("down")) {
-                return CALM + 2;
-            }
-            if (spells("left")) {
-                return CALM + 3;
-            }
-            return spells("up") ? CALM + 4 : WRONG;
-        }
-
-        private boolean spells(String word) {
+        private boolean spells(Text text, String word) {
             if (word.length() != next - start) {
                 return false;
             }
             for (int i = 0; i < word.length(); i++) {
-                if (word.charAt(i) != byteAt(start + i)) {
+                if (word.charAt(i) != text.byteAt(start + i)) {
                     return false;
                 }
             }
@@ -532,89 +554,87 @@ public final class UnlikeRoofs {
     /** Reads ITEMS into a town that has nothing yet; a read that fails stays on the TOKEN that can't stand there. */
     private static final class Reader {
         /** How many ITEMS, or -10 less FAULT. */
-        static int readAll(Text text, Town town) {
-            text.rewind();
-            text.advance();
+        static int readAll(Tokens tokens, Town town) {
             int items = 0;
-            while (text.kind != Text.END && items <= MOST_ITEMS) {
-                if (!readItem(text, town)) {
-                    return BEFORE_FAULT - text.start;
+            while (tokens.kind() != Tokens.END && items <= MOST_ITEMS) {
+                if (!readItem(tokens, town)) {
+                    return BEFORE_FAULT - tokens.place();
                 }
                 items++;
-                text.advance();
+                tokens.advance();
             }
             return items;
         }
 
-        private static boolean readItem(Text text, Town town) {
-            switch (text.kind) {
-                case Text.SORT:
-                    return readSort(text, town);
-                case Text.HOUSE:
-                    return readHouse(text, town);
-                case Text.ROOF:
-                    return readRoof(text, town);
-                case Text.BOUND:
-                    return readBound(text, town);
-                case Text.WIND:
-                    return readWind(text, town);
+        private static boolean readItem(Tokens tokens, Town town) {
+            switch (tokens.kind()) {
+                case Tokens.SORT:
+                    return readSort(tokens, town);
+                case Tokens.HOUSE:
+                    return readHouse(tokens, town);
+                case Tokens.ROOF:
+                    return readRoof(tokens, town);
+                case Tokens.BOUND:
+                    return readBound(tokens, town);
+                case Tokens.WIND:
+                    return readWind(tokens, town);
                 default:
                     return false;
             }
         }
 
-        private static boolean readSort(Text text, Town town) {
+        private static boolean readSort(Tokens tokens, Town town) {
             if (town.sorts >= MOST_SORTS) {
                 return false;
             }
-            int price = number(text, 1, 99);
+            int price = number(tokens, 1, 99);
             if (price == NONE) {
                 return false;
             }
-            int burn = number(text, 0, 9);
-            if (burn == NONE || !stop(text)) {
+            int burn = number(tokens, 0, 9);
+            if (burn == NONE || !stop(tokens)) {
                 return false;
             }
             town.addSort(price, burn);
             return true;
         }
 
-        private static boolean readHouse(Text text, Town town) {
+        private static boolean readHouse(Tokens tokens, Town town) {
             if (town.houses >= MOST_HOUSES) {
                 return false;
             }
-            int x = number(text, 0, LAST_CELL);
+            int x = number(tokens, 0, LAST_CELL);
             if (x == NONE) {
                 return false;
             }
-            int y = number(text, 0, LAST_CELL);
-            if (y == NONE || town.bitAt(x, y) != 0 || !stop(text)) {
+            int y = number(tokens, 0, LAST_CELL);
+            if (y == NONE || town.bitAt(x, y) != 0 || !stop(tokens)) {
                 return false;
             }
             town.addHouse(x, y);
             return true;
         }
 
-        private static boolean readRoof(Text text, Town town) {
-            int h = number(text, 0, town.houses - 1);
+        private static boolean readRoof(Tokens tokens, Town town) {
+            int h = number(tokens, 0, town.houses - 1);
             if (h == NONE) {
                 return false;
             }
-            int s = number(text, 0, town.sorts - 1);
-            if (s == NONE || town.isBoundElse(h, s) || !stop(text)) {
+            int s = number(tokens, 0, town.sorts - 1);
+            if (s == NONE || town.isBoundElse(h, s) || !stop(tokens)) {
                 return false;
             }
             town.roofs[h] = s;
             return true;
         }
 
-        private static boolean readBound(Text text, Town town) {
-            int h = number(text, 0, town.houses - 1);
+        private static boolean readBound(Tokens tokens, Town town) {
+            int h = number(tokens, 0, town.houses - 1);
             if (h == NONE || town.bounds[h] != NONE) {
                 return false;
             }
-            int s = number(text, 0, town.sorts - 1);
-            if (s == NONE || !stop(text)) {
+            int s = number(tokens, 0, town.sorts - 1);
+            if (s == NONE || !stop(tokens)) {
                 return false;
             }
             town.bounds[h] = s;
@@ -622,13 +642,13 @@ public final class UnlikeRoofs {
             return true;
         }
 
-        private static boolean readWind(Text text, Town town) {
+        private static boolean readWind(Tokens tokens, Town town) {
             if (town.windTold) {
                 return false;
             }
-            text.advance();
-            int w = text.kind - Text.CALM;
-            if (w < 0 || w > LAST_WIND || !stop(text)) {
+            tokens.advance();
+            int w = tokens.kind() - Tokens.CALM;
+            if (w < 0 || w > LAST_WIND || !stop(tokens)) {
                 return false;
             }
             town.blowing = w;
@@ -637,15 +657,14 @@ public final class UnlikeRoofs {
         }
 
         /** NONE if the next TOKEN is no NUMBER from least to most. */
-        private static int number(Text text, int least, int most) {
-            text.advance();
-            boolean fits = text.kind == Text.NUMBER && text.value >= least && text.value <= most;
-            return fits ? text.value : NONE;
+        private static int number(Tokens tokens, int least, int most) {
+            tokens.advance();
+            return tokens.numberFrom(least, most);
         }
 
-        private static boolean stop(Text text) {
-            text.advance();
-            return text.kind == Text.STOP;
+        private static boolean stop(Tokens tokens) {
+            tokens.advance();
+            return tokens.kind() == Tokens.STOP;
         }
     }
 
@@ -742,7 +761,10 @@ public final class UnlikeRoofs {
 
         /** The house that sparks of h reach; none without wind. */
         int sparked(int h, int w) {
-            return bitOff(h, w, 2);
+            if (!hasHouse(h) || w < 1 || w > LAST_WIND) {
+                return 0;
+            }
+            return bitAt(xs[h] + 2 * RIGHTWARD[w], ys[h] + 2 * DOWNWARD[w]);
         }
 
         /** The houses that may not be roofed like h. */
@@ -750,19 +772,17 @@ public final class UnlikeRoofs {
             return sparks == 1 ? around(h, 1) | around(h, 2) : around(h, 1);
         }
 
+        /** The houses that lie so far off, straight to a side. */
         private int around(int h, int far) {
             int bits = 0;
-            for (int w = 1; w <= LAST_WIND; w++) {
-                bits |= bitOff(h, w, far);
+            for (int g = 0; g < houses && h >= 0 && h < houses; g++) {
+                int across = Math.abs(xs[g] - xs[h]);
+                int down = Math.abs(ys[g] - ys[h]);
+                if (across + down == far && (across == 0 || down == 0)) {
+                    bits |= 1 << g;
+                }
             }
             return bits;
-        }
-
-        private int bitOff(int h, int w, int far) {
-            if (!hasHouse(h) || w < 1 || w > LAST_WIND) {
-                return 0;
-            }
-            return bitAt(xs[h] + far * RIGHTWARD[w], ys[h] + far * DOWNWARD[w]);
         }
 
         int pairsThatTouch() {
