@@ -387,7 +387,7 @@ public final class UnlikeRoofs {
     private static int greatestCommon(int a, int b) {
         int big = a;
         int small = b;
-        // Euclid's steps on ints stay below 50.
+        // Two ints are done in fewer than 50 of Euclid's steps.
         for (int step = 0; step < 64 && small != 0; step++) {
             int left = big % small;
             big = small;
@@ -774,8 +774,11 @@ public final class UnlikeRoofs {
 
         /** The houses that lie so far off, straight to a side. */
         private int around(int h, int far) {
+            if (!hasHouse(h)) {
+                return 0;
+            }
             int bits = 0;
-            for (int g = 0; g < houses && h >= 0 && h < houses; g++) {
+            for (int g = 0; g < houses; g++) {
                 int across = Math.abs(xs[g] - xs[h]);
                 int down = Math.abs(ys[g] - ys[h]);
                 if (across + down == far && (across == 0 || down == 0)) {

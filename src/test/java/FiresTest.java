@@ -12,6 +12,7 @@ public final class FiresTest {
         mean();
         saw();
         began();
+        eightHouses();
         Due.finish();
     }
 
@@ -86,6 +87,7 @@ public final class FiresTest {
         Due.is("14", x.worst(), 3);
         Due.is("nothing", new UnlikeRoofs().worst(), -9);
         Due.is("nothing that burns", Due.town("sort 9 0;house 1 1;house 2 1;roof 0 0;").worst(), -9);
+        Due.is("a price of 1", Due.town("sort 1 1;house 1 1;roof 0 0;").worst(), 0);
         UnlikeRoofs windy = Due.town("sort 4 3;house 0 0;house 2 0;roof 0 0;roof 1 0;wind left;");
         Due.is("with the wind", windy.worst(), 1);
         windy.wind(1);
@@ -166,5 +168,32 @@ public final class FiresTest {
         x.roof(0, -9);
         Due.is("no roof", x.began(), 0);
         Due.is("no houses", new UnlikeRoofs().began(), 0);
+    }
+
+    /** A snake of eight: the last catches in minute 7. */
+    private static void eightHouses() {
+        UnlikeRoofs x = Due.town("sort 2 9;house 0 0;house 1 0;house 2 0;house 3 0;house 3 1;house 3 2;house 2 2;"
+            + "house 1 2;roof 0 0;roof 1 0;roof 2 0;roof 3 0;roof 4 0;roof 5 0;roof 6 0;roof 7 0;");
+        Due.is("the last", x.catches(0, 7), 7);
+        Due.is("the first", x.catches(7, 0), 7);
+        Due.is("all", x.fire(0, 0), 8);
+        Due.is("lasts", x.fire(0, 2), 16);
+        Due.is("lasts from the middle", x.fire(3, 2), 13);
+        Due.is("worst", x.worst(), 0);
+        Due.is("mean", x.mean(0), 16);
+        Due.is("mean", x.mean(1), 1);
+        Due.is("began", x.began(), 255);
+        x.saw(7, 7);
+        Due.is("began", x.began(), 1);
+        Due.is("breaches", x.breaches(0), 7);
+        Due.is("breaches by sparks", x.breaches(1), 13);
+        Due.is("pays", x.pays(7), 0);
+        Due.is("no order", x.order(0, 0, 0), -9);
+        Due.is("pairs", x.count(3), 7);
+        Due.is("roofs", x.count(2), 8);
+        x.wind(3);
+        Due.is("left over one", x.catches(3, 1), 1);
+        Due.is("left over one, on and on", x.catches(3, 0), 2);
+        Due.is("left does not go right", x.catches(7, 5), 2);
     }
 }

@@ -17,6 +17,7 @@ public final class TextTest {
         wrongItems();
         faultChangesNothing();
         readAnew();
+        nothingLeftOver();
         Due.finish();
     }
 
@@ -136,6 +137,12 @@ public final class TextTest {
     private static void wrongWords() {
         faultAt("sor 1 1;", 0);
         faultAt("sortx 1 1;", 0);
+        faultAt("sorta 1 1;", 0);
+        faultAt("sortz 1 1;", 0);
+        faultAt("sort{1 1;", 4);
+        faultAt("sort`1 1;", 4);
+        faultAt("sort/1 1;", 4);
+        faultAt("sort:1 1;", 4);
         faultAt("Sort 1 1;", 0);
         faultAt(";", 0);
         faultAt("sort 1 1;;", 9);
@@ -181,6 +188,10 @@ public final class TextTest {
     private static void wrongItems() {
         faultAt(FOUR_SORTS + "sort 1 1;", 36);
         faultAt(EIGHT_HOUSES + "house 0 1;", 80);
+        faultAt("sort 1 1;" + EIGHT_HOUSES + "roof 8 0;", 94);
+        faultAt("sort 1 1;" + EIGHT_HOUSES + "bound 8 0;", 95);
+        faultAt(FOUR_SORTS + EIGHT_HOUSES + "roof 7 4;", 123);
+        faultAt(FOUR_SORTS + EIGHT_HOUSES + "bound 7 4;", 124);
         faultAt("house 3 4;house 3 4;", 18);
         faultAt("house 3 4;house 3 4", 18);
         reads("house 3 4;house 4 3;", 2);
@@ -240,5 +251,33 @@ public final class TextTest {
         Due.is("an empty text is a town", x.town(), 0);
         Due.is("with no houses", x.count(0), 0);
         Due.is("with no sorts", x.count(1), 0);
+    }
+
+    /** What earlier texts told, or told up to a fault, is in no later town. */
+    private static void nothingLeftOver() {
+        UnlikeRoofs x = Due.town("sort 5 2;sort 6 2;house 1 1;house 2 1;house 3 1;bound 0 1;bound 1 0;wind up;");
+        Due.type(x, "sort 7 7;sort 8 8;house 4 4;house 5 4;bound 0 0;bound 1 1;wind left;bound 1");
+        Due.is("a fault at a bound one", x.town(), -10 - 74);
+        x.clear();
+        for (int round = 0; round < 3; round++) {
+            Due.type(x, "sort 1 1;house 0 0;");
+            Due.is("a small town", x.town(), 2);
+            Due.is("its wind", x.wind(2), 0);
+            Due.is("its second sort", x.sort(1, 0), -1);
+            Due.is("its second house", x.house(1, 0), -1);
+            Due.is("its roofs", x.count(2), 0);
+            Due.is("not bound", x.house(0, 3), -9);
+            Due.is("a roof", x.roof(0, 0), -9);
+            Due.is("one way", x.ways(1), 1);
+            Due.type(x, "sort 1 1;house 0 0;bound 1 0;");
+            Due.is("no second house to bind", x.town(), -35);
+            x.clear();
+            Due.type(x, "sort 1 1;house 0 0;roof 1 0;");
+            Due.is("no second house to roof", x.town(), -34);
+            x.clear();
+            Due.type(x, "wind up;sort 1 1;house 0 0;house 1 0;bound 0 0;bound 1 0;house 1 0;");
+            Due.is("a fault behind two bound ones", x.town(), -10 - 65);
+            x.clear();
+        }
     }
 }
