@@ -77,28 +77,17 @@ public final class TextTest {
         Due.is("town behind clear", x.town(), 0);
     }
 
-    private static void reads(String text, int want) {
-        UnlikeRoofs x = new UnlikeRoofs();
-        Due.type(x, text);
-        Due.is("town of '" + text + "'", x.town(), want);
-        Due.is("bytes behind '" + text + "'", x.count(5), want >= 0 ? 0 : text.length());
-    }
-
-    private static void faultAt(String text, int place) {
-        reads(text, -10 - place);
-    }
-
     private static void goodTexts() {
-        reads("", 0);
-        reads("    ", 0);
-        reads("sort 99 9;", 1);
-        reads("sort 1 0;house 7 7;roof 0 0;roof 0 0;bound 0 0;roof 0 0;wind none;", 7);
-        reads(FOUR_SORTS + EIGHT_HOUSES, 12);
-        reads("wind none;", 1);
-        reads("wind right;", 1);
-        reads("wind down;", 1);
-        reads("wind left;", 1);
-        reads("wind up;", 1);
+        Due.reads("", 0);
+        Due.reads("    ", 0);
+        Due.reads("sort 99 9;", 1);
+        Due.reads("sort 1 0;house 7 7;roof 0 0;roof 0 0;bound 0 0;roof 0 0;wind none;", 7);
+        Due.reads(FOUR_SORTS + EIGHT_HOUSES, 12);
+        Due.reads("wind none;", 1);
+        Due.reads("wind right;", 1);
+        Due.reads("wind down;", 1);
+        Due.reads("wind left;", 1);
+        Due.reads("wind up;", 1);
         UnlikeRoofs x = Due.town("sort 12 3;sort 7 0;house 2 5;house 6 1;roof 0 1;bound 0 0;bound 1 1;wind left;");
         Due.is("x", x.house(0, 0), 2);
         Due.is("y", x.house(0, 1), 5);
@@ -111,97 +100,97 @@ public final class TextTest {
     }
 
     private static void blanks() {
-        reads("sort1 1;", 1);
-        reads("  sort  1   1  ;  ", 1);
-        reads("sort 1 1;house1 2;roof0 0;bound0 0;wind up ;", 5);
-        faultAt("sort 11;", 7);
-        faultAt("windup;", 0);
-        faultAt("wind\tup;", 4);
-        faultAt("wind up\n;", 7);
+        Due.reads("sort1 1;", 1);
+        Due.reads("  sort  1   1  ;  ", 1);
+        Due.reads("sort 1 1;house1 2;roof0 0;bound0 0;wind up ;", 5);
+        Due.faultAt("sort 11;", 7);
+        Due.faultAt("windup;", 0);
+        Due.faultAt("wind\tup;", 4);
+        Due.faultAt("wind up\n;", 7);
     }
 
     private static void tooEarly() {
-        faultAt("sort", 4);
-        faultAt("sort ", 5);
-        faultAt("sort 1", 6);
-        faultAt("sort 1 1", 8);
-        faultAt("sort 1 1   ", 11);
-        faultAt("house 1", 7);
-        faultAt("house 1 1", 9);
-        faultAt("sort 1 1;house 0 0;roof 0", 25);
-        faultAt("sort 1 1;house 0 0;bound", 24);
-        faultAt("wind", 4);
-        faultAt("wind up", 7);
+        Due.faultAt("sort", 4);
+        Due.faultAt("sort ", 5);
+        Due.faultAt("sort 1", 6);
+        Due.faultAt("sort 1 1", 8);
+        Due.faultAt("sort 1 1   ", 11);
+        Due.faultAt("house 1", 7);
+        Due.faultAt("house 1 1", 9);
+        Due.faultAt("sort 1 1;house 0 0;roof 0", 25);
+        Due.faultAt("sort 1 1;house 0 0;bound", 24);
+        Due.faultAt("wind", 4);
+        Due.faultAt("wind up", 7);
     }
 
     private static void wrongWords() {
-        faultAt("sor 1 1;", 0);
-        faultAt("sortx 1 1;", 0);
-        faultAt("sorta 1 1;", 0);
-        faultAt("sortz 1 1;", 0);
-        faultAt("sort{1 1;", 4);
-        faultAt("sort`1 1;", 4);
-        faultAt("sort/1 1;", 4);
-        faultAt("sort:1 1;", 4);
-        faultAt("Sort 1 1;", 0);
-        faultAt(";", 0);
-        faultAt("sort 1 1;;", 9);
-        faultAt("7;", 0);
-        faultAt("up;", 0);
-        faultAt("sort 1 1;none;", 9);
-        faultAt("sort up 1;", 5);
-        faultAt("sort 1 1 1;", 9);
-        faultAt("sort 1;", 6);
-        faultAt("wind;", 4);
-        faultAt("wind sort;", 5);
-        faultAt("wind ups;", 5);
-        faultAt("wind 0;", 5);
-        faultAt("sort -1 1;", 5);
-        faultAt("sort 1 1" + (char) 233 + ";", 8);
-        faultAt("" + (char) 0, 0);
-        faultAt(" " + (char) 255, 1);
-        faultAt("roof none 0;", 5);
+        Due.faultAt("sor 1 1;", 0);
+        Due.faultAt("sortx 1 1;", 0);
+        Due.faultAt("sorta 1 1;", 0);
+        Due.faultAt("sortz 1 1;", 0);
+        Due.faultAt("sort{1 1;", 4);
+        Due.faultAt("sort`1 1;", 4);
+        Due.faultAt("sort/1 1;", 4);
+        Due.faultAt("sort:1 1;", 4);
+        Due.faultAt("Sort 1 1;", 0);
+        Due.faultAt(";", 0);
+        Due.faultAt("sort 1 1;;", 9);
+        Due.faultAt("7;", 0);
+        Due.faultAt("up;", 0);
+        Due.faultAt("sort 1 1;none;", 9);
+        Due.faultAt("sort up 1;", 5);
+        Due.faultAt("sort 1 1 1;", 9);
+        Due.faultAt("sort 1;", 6);
+        Due.faultAt("wind;", 4);
+        Due.faultAt("wind sort;", 5);
+        Due.faultAt("wind ups;", 5);
+        Due.faultAt("wind 0;", 5);
+        Due.faultAt("sort -1 1;", 5);
+        Due.faultAt("sort 1 1" + (char) 233 + ";", 8);
+        Due.faultAt("" + (char) 0, 0);
+        Due.faultAt(" " + (char) 255, 1);
+        Due.faultAt("roof none 0;", 5);
     }
 
     private static void wrongNumbers() {
-        faultAt("sort 0 1;", 5);
-        faultAt("sort 100 1;", 5);
-        faultAt("sort 1 10;", 7);
-        faultAt("sort 1 00;", 7);
-        faultAt("sort 1 01;", 7);
-        faultAt("sort 007 1;", 5);
-        faultAt("sort 4294967297 1;", 5);
-        faultAt("sort 18446744073709551617 1;", 5);
-        faultAt("house 8 0;", 6);
-        faultAt("house 0 8;", 8);
-        faultAt("house 0 100;", 8);
-        faultAt("100", 0);
-        faultAt("sort 1 1;house 0 0;roof 1 0;", 24);
-        faultAt("sort 1 1;house 0 0;roof 0 1;", 26);
-        faultAt("sort 1 1;house 0 0;bound 1 0;", 25);
-        faultAt("sort 1 1;house 0 0;bound 0 1;", 27);
-        faultAt("roof 0 0;", 5);
-        faultAt("house 0 0;bound 0 0;", 18);
-        faultAt("house 0 0;roof 0 0;sort 1 1;", 17);
+        Due.faultAt("sort 0 1;", 5);
+        Due.faultAt("sort 100 1;", 5);
+        Due.faultAt("sort 1 10;", 7);
+        Due.faultAt("sort 1 00;", 7);
+        Due.faultAt("sort 1 01;", 7);
+        Due.faultAt("sort 007 1;", 5);
+        Due.faultAt("sort 4294967297 1;", 5);
+        Due.faultAt("sort 18446744073709551617 1;", 5);
+        Due.faultAt("house 8 0;", 6);
+        Due.faultAt("house 0 8;", 8);
+        Due.faultAt("house 0 100;", 8);
+        Due.faultAt("100", 0);
+        Due.faultAt("sort 1 1;house 0 0;roof 1 0;", 24);
+        Due.faultAt("sort 1 1;house 0 0;roof 0 1;", 26);
+        Due.faultAt("sort 1 1;house 0 0;bound 1 0;", 25);
+        Due.faultAt("sort 1 1;house 0 0;bound 0 1;", 27);
+        Due.faultAt("roof 0 0;", 5);
+        Due.faultAt("house 0 0;bound 0 0;", 18);
+        Due.faultAt("house 0 0;roof 0 0;sort 1 1;", 17);
     }
 
     private static void wrongItems() {
-        faultAt(FOUR_SORTS + "sort 1 1;", 36);
-        faultAt(EIGHT_HOUSES + "house 0 1;", 80);
-        faultAt("sort 1 1;" + EIGHT_HOUSES + "roof 8 0;", 94);
-        faultAt("sort 1 1;" + EIGHT_HOUSES + "bound 8 0;", 95);
-        faultAt(FOUR_SORTS + EIGHT_HOUSES + "roof 7 4;", 123);
-        faultAt(FOUR_SORTS + EIGHT_HOUSES + "bound 7 4;", 124);
-        faultAt("house 3 4;house 3 4;", 18);
-        faultAt("house 3 4;house 3 4", 18);
-        reads("house 3 4;house 4 3;", 2);
-        faultAt("sort 1 1;sort 1 1;house 0 0;bound 0 1;roof 0 0;", 45);
-        reads("sort 1 1;sort 1 1;house 0 0;roof 0 0;roof 0 1;bound 0 0;roof 0 0;", 7);
-        faultAt("sort 1 1;sort 1 1;house 0 0;bound 0 1;bound 0 0;", 44);
-        faultAt("sort 1 1;house 0 0;bound 0 0;bound 0 0;", 35);
-        faultAt("wind up;wind up;", 8);
-        faultAt("wind none;wind none;", 10);
-        faultAt("wind none; wind", 11);
+        Due.faultAt(FOUR_SORTS + "sort 1 1;", 36);
+        Due.faultAt(EIGHT_HOUSES + "house 0 1;", 80);
+        Due.faultAt("sort 1 1;" + EIGHT_HOUSES + "roof 8 0;", 94);
+        Due.faultAt("sort 1 1;" + EIGHT_HOUSES + "bound 8 0;", 95);
+        Due.faultAt(FOUR_SORTS + EIGHT_HOUSES + "roof 7 4;", 123);
+        Due.faultAt(FOUR_SORTS + EIGHT_HOUSES + "bound 7 4;", 124);
+        Due.faultAt("house 3 4;house 3 4;", 18);
+        Due.faultAt("house 3 4;house 3 4", 18);
+        Due.reads("house 3 4;house 4 3;", 2);
+        Due.faultAt("sort 1 1;sort 1 1;house 0 0;bound 0 1;roof 0 0;", 45);
+        Due.reads("sort 1 1;sort 1 1;house 0 0;roof 0 0;roof 0 1;bound 0 0;roof 0 0;", 7);
+        Due.faultAt("sort 1 1;sort 1 1;house 0 0;bound 0 1;bound 0 0;", 44);
+        Due.faultAt("sort 1 1;house 0 0;bound 0 0;bound 0 0;", 35);
+        Due.faultAt("wind up;wind up;", 8);
+        Due.faultAt("wind none;wind none;", 10);
+        Due.faultAt("wind none; wind", 11);
     }
 
     private static void faultChangesNothing() {
