@@ -1,18 +1,12 @@
 /** Promises 20 to 22, and what section 4 says of them, at their edges, a sentence a test: CHANGE, PAYS, ORDER. */
 public final class EdgesChangesTest {
-    private static final int LEAST = Integer.MIN_VALUE;
-    private static final int GREATEST = Integer.MAX_VALUE;
-    private static final int NO = -1000000;
-    private static final int[] NO_SPARKS = {-1, 2, -9, LEAST, GREATEST};
-    private static final String ROW = "house 0 0;house 1 0;house 2 0;house 3 0;house 4 0;house 5 0;house 6 0;"
-        + "house 7 0;";
     private static final String BY_TURNS = "roof 0 0;roof 1 1;roof 2 0;roof 3 1;roof 4 0;roof 5 1;roof 6 0;roof 7 1;";
-    private static final String ALL_ALIKE = "roof 0 0;roof 1 0;roof 2 0;roof 3 0;roof 4 0;roof 5 0;roof 6 0;roof 7 0;";
     /** Three side by side, two SORTS by turns. */
     private static final String THREE = "sort 3 2;sort 8 0;house 0 0;house 1 0;house 2 0;roof 0 0;roof 1 1;roof 2 0;";
 
     public static void main(String[] args) {
         changeFewest();
+        changeInTheLargestTown();
         changeNotBound();
         changeFirst();
         changeNone();
@@ -36,7 +30,7 @@ public final class EdgesChangesTest {
 
     // Promise 20: A CHANGE: house h gets SORT s: the fewest other houses
     private static void changeFewest() {
-        UnlikeRoofs x = Due.town("sort 3 2;sort 8 0;" + ROW + BY_TURNS);
+        UnlikeRoofs x = Due.town("sort 3 2;sort 8 0;" + Edge.ROW + BY_TURNS);
         Due.is("none need change", x.change(0, 0, 0, -1), 0);
         Due.is("all others must", x.change(0, 1, 0, -1), 7);
         for (int g = 0; g < 8; g++) {
@@ -52,9 +46,31 @@ public final class EdgesChangesTest {
         Due.is("a neighbour that may stay stays", y.change(2, 0, 0, 1), 2);
         Due.is("none must then", y.change(2, 0, 0, -1), 0);
         // A TOWN need not be LAWFUL ahead.
-        UnlikeRoofs alike = Due.town("sort 1 0;sort 2 0;" + ROW + ALL_ALIKE);
+        UnlikeRoofs alike = Due.town("sort 1 0;sort 2 0;" + Edge.ROW + Edge.ALL_ALIKE);
         Due.is("every second must", alike.change(0, 0, 0, -1), 4);
         Due.is("every second but itself", alike.change(0, 1, 0, -1), 3);
+        Due.is("the cheapest cost", alike.cheapest(0, -1), 12);
+        Due.is("a change costs no prices", alike.change(0, 0, 0, -1), 4);
+    }
+
+    // Promise 20: the fewest other houses
+    private static void changeInTheLargestTown() {
+        // Of two rows of four all alike every second one may stay: 0 2 5 7 or 1 3 4 6.
+        UnlikeRoofs x = Due.town("sort 1 0;sort 1 0;sort 1 0;sort 1 0;" + Edge.BLOCK
+            + Edge.ALL_ALIKE.replace(" 0;", " 3;"));
+        int[] same = {3, 0, 3, 0, 0, 3, 0, 3};
+        int[] other = {0, 3, 0, 3, 3, 0, 3, 0};
+        Due.is("to what it has: four others", x.change(7, 3, 0, -1), 4);
+        Due.is("to another: three others", x.change(7, 0, 0, -1), 3);
+        for (int g = 0; g < 8; g++) {
+            Due.is("to what it has: house " + g, x.change(7, 3, 0, g), same[g]);
+            Due.is("to another: house " + g, x.change(7, 0, 0, g), other[g]);
+        }
+        for (int h = 0; h < 8; h++) {
+            for (int s = 0; s < 4; s++) {
+                Due.is("house " + h + " to " + s, x.change(h, s, 0, -1), s == 3 ? 4 : 3);
+            }
+        }
     }
 
     // Promise 20: (not BOUND ones) that must get other ROOFS so that THE TOWN is LAWFUL (all have ROOFS ahead);
@@ -131,19 +147,19 @@ public final class EdgesChangesTest {
         UnlikeRoofs x = Due.town(THREE);
         UnlikeRoofs bare = Due.town(THREE);
         bare.roof(0, -9);
-        for (int none : new int[] {-1, -9, 3, LEAST, GREATEST}) {
+        for (int none : Edge.noneOf(3)) {
             Due.is("house " + none, x.change(none, 0, 0, -1), -1);
             Due.is("house " + none + " ahead of STATE", bare.change(none, 0, 0, -1), -1);
         }
-        for (int s : new int[] {-1, -9, 2, LEAST, GREATEST}) {
+        for (int s : Edge.noneOf(2)) {
             Due.is("sort " + s, x.change(0, s, 0, -1), -1);
             Due.is("sort " + s + " ahead of STATE", bare.change(0, s, 0, -1), -1);
         }
-        for (int sparks : NO_SPARKS) {
+        for (int sparks : Edge.noFlags()) {
             Due.is("sparks " + sparks, x.change(0, 0, sparks, -1), -1);
             Due.is("sparks " + sparks + " ahead of STATE", bare.change(0, 0, sparks, -1), -1);
         }
-        for (int g : new int[] {-2, -9, 3, LEAST, GREATEST}) {
+        for (int g : new int[] {-2, -9, 3, Edge.LEAST, Edge.GREATEST}) {
             Due.is("house asked " + g, x.change(0, 0, 0, g), -1);
             Due.is("house asked " + g + " ahead of STATE", bare.change(0, 0, 0, g), -1);
         }
@@ -164,7 +180,7 @@ public final class EdgesChangesTest {
 
     // Promise 20: or a house has no ROOF.
     private static void changeRoofState() {
-        UnlikeRoofs x = Due.town("sort 3 2;sort 8 0;" + ROW + BY_TURNS);
+        UnlikeRoofs x = Due.town("sort 3 2;sort 8 0;" + Edge.ROW + BY_TURNS);
         for (int bare = 0; bare < 8; bare++) {
             x.roof(bare, -9);
             Due.is("house " + bare + " has none, itself", x.change(bare, 0, 0, -1), -2);
@@ -247,18 +263,18 @@ public final class EdgesChangesTest {
     // Promise 21: NO: BAD.
     private static void paysBad() {
         UnlikeRoofs x = Due.town(THREE);
-        for (int h : new int[] {-1, -9, 3, LEAST, GREATEST}) {
-            Due.is("house " + h, x.pays(h), NO);
+        for (int h : Edge.noneOf(3)) {
+            Due.is("house " + h, x.pays(h), Edge.NO);
         }
         Due.is("the first", x.pays(0), -2);
         Due.is("the last", x.pays(2), -2);
-        Due.is("none at all", new UnlikeRoofs().pays(0), NO);
+        Due.is("none at all", new UnlikeRoofs().pays(0), Edge.NO);
     }
 
     // Promise 22: ORDER: from no ROOFS but those told as old (bits) to THE TOWN as it is, a house a week: LAWFUL
     // behind each week;
     private static void orderFromOld() {
-        UnlikeRoofs x = Due.town("sort 3 2;sort 8 0;" + ROW + BY_TURNS);
+        UnlikeRoofs x = Due.town("sort 3 2;sort 8 0;" + Edge.ROW + BY_TURNS);
         for (int h = 0; h < 8; h++) {
             Due.is("all but " + h + " are old", x.order(255 & ~(1 << h), 0, 0), h);
             Due.is("all but " + h + " are old, a week later", x.order(255 & ~(1 << h), 0, 1), -5);
@@ -277,7 +293,7 @@ public final class EdgesChangesTest {
 
     // Promise 22: the order: of all the first by house (each the least that may come next); NONE.
     private static void orderLeast() {
-        UnlikeRoofs x = Due.town("sort 3 2;sort 8 0;" + ROW + BY_TURNS);
+        UnlikeRoofs x = Due.town("sort 3 2;sort 8 0;" + Edge.ROW + BY_TURNS);
         for (int w = 0; w < 8; w++) {
             Due.is("week " + w, x.order(0, 0, w), w);
         }
@@ -303,11 +319,11 @@ public final class EdgesChangesTest {
 
     // Promise 22: ORDER: the house of week w (0 on; -5: not so many).
     private static void orderWeeks() {
-        UnlikeRoofs x = Due.town("sort 3 2;sort 8 0;" + ROW + BY_TURNS);
+        UnlikeRoofs x = Due.town("sort 3 2;sort 8 0;" + Edge.ROW + BY_TURNS);
         Due.is("week 0", x.order(0, 0, 0), 0);
         Due.is("week 7", x.order(0, 0, 7), 7);
         Due.is("week 8", x.order(0, 0, 8), -5);
-        Due.is("the latest week", x.order(0, 0, GREATEST), -5);
+        Due.is("the latest week", x.order(0, 0, Edge.GREATEST), -5);
         Due.is("no houses", new UnlikeRoofs().order(0, 0, 0), -5);
         Due.is("no roofs", Due.town("house 0 0;").order(0, 1, 0), -5);
     }
@@ -324,20 +340,20 @@ public final class EdgesChangesTest {
     // Promise 22: BAD (old: bits of houses that there are not are left out; w below 0).
     private static void orderBad() {
         UnlikeRoofs x = Due.town("sort 3 2;sort 8 0;house 0 0;house 2 0;roof 0 0;roof 1 0;");
-        for (int w : new int[] {-1, -5, -9, LEAST}) {
+        for (int w : new int[] {-1, -5, -9, Edge.LEAST}) {
             Due.is("week " + w, x.order(0, 0, w), -1);
             Due.is("week " + w + " ahead of NONE", x.order(0, 1, w), -1);
         }
-        for (int sparks : NO_SPARKS) {
+        for (int sparks : Edge.noFlags()) {
             Due.is("sparks " + sparks, x.order(0, sparks, 0), -1);
         }
-        for (int old : new int[] {4, 8, 128, 256, 65536, LEAST, ~3}) {
+        for (int old : new int[] {4, 8, 128, 256, 65536, Edge.LEAST, ~3}) {
             Due.is("bits of no house: " + old, x.order(old, 0, 0), 0);
             Due.is("bits of no house, and of 0: " + old, x.order(old | 1, 0, 0), 1);
             Due.is("bits of no house, and of 0 and 1: " + old, x.order(old | 3, 0, 0), -5);
         }
         Due.is("all bits", x.order(-1, 0, 0), -5);
-        Due.is("the greatest", x.order(GREATEST, 0, 0), -5);
+        Due.is("the greatest", x.order(Edge.GREATEST, 0, 0), -5);
         Due.is("bits of no house in an empty town", new UnlikeRoofs().order(-1, 0, 0), -5);
     }
 }

@@ -1,11 +1,5 @@
 /** Promises 13 to 19, and section 3, at their edges, a sentence a test: FIRES, WORST, MEAN, SEEN, BEGAN. */
 public final class EdgesFiresTest {
-    private static final int LEAST = Integer.MIN_VALUE;
-    private static final int GREATEST = Integer.MAX_VALUE;
-    private static final int NO = -1000000;
-    private static final String ROW = "house 0 0;house 1 0;house 2 0;house 3 0;house 4 0;house 5 0;house 6 0;"
-        + "house 7 0;";
-    private static final String ALL_ALIKE = "roof 0 0;roof 1 0;roof 2 0;roof 3 0;roof 4 0;roof 5 0;roof 6 0;roof 7 0;";
     /** Houses 0 and 1 can burn; 2 has BURN 0, 3 no ROOF. */
     private static final String MIXED = "sort 3 2;sort 8 0;house 0 0;house 1 0;house 2 0;house 3 0;roof 0 0;roof 1 0;"
         + "roof 2 1;";
@@ -69,7 +63,7 @@ public final class EdgesFiresTest {
     // BURN above m less 1)
     private static void minuteByMinute() {
         for (int burn = 1; burn <= 9; burn += 4) {
-            UnlikeRoofs x = Due.town("sort 5 " + burn + ";" + ROW + ALL_ALIKE);
+            UnlikeRoofs x = Due.town("sort 5 " + burn + ";" + Edge.ROW + Edge.ALL_ALIKE);
             for (int h = 0; h < 8; h++) {
                 Due.is("burn " + burn + ": from the end, house " + h, x.catches(0, h), h);
                 Due.is("burn " + burn + ": from the middle, house " + h, x.catches(3, h), Math.abs(h - 3));
@@ -91,7 +85,7 @@ public final class EdgesFiresTest {
         Due.is("and counts once", x.fire(1, 0), 3);
         // A round of eight: it is reached from both sides, in minute 4 at last.
         UnlikeRoofs round = Due.town("sort 5 1;house 0 0;house 1 0;house 2 0;house 2 1;house 2 2;house 1 2;"
-            + "house 0 2;house 0 1;" + ALL_ALIKE);
+            + "house 0 2;house 0 1;" + Edge.ALL_ALIKE);
         int[] minutes = {0, 1, 2, 3, 4, 3, 2, 1};
         for (int h = 0; h < minutes.length; h++) {
             Due.is("round: house " + h, round.catches(0, h), minutes[h]);
@@ -102,7 +96,7 @@ public final class EdgesFiresTest {
 
     // Promises 13 and 14: or to which it throws SPARKS in the WIND (whatever lies between): since minute m.
     private static void throwsSparks() {
-        UnlikeRoofs x = Due.town("sort 5 1;sort 5 0;" + ROW + ALL_ALIKE);
+        UnlikeRoofs x = Due.town("sort 5 1;sort 5 0;" + Edge.ROW + Edge.ALL_ALIKE);
         int[] right = {0, 1, 1, 2, 2, 3, 3, 4};
         x.wind(1);
         for (int h = 0; h < 8; h++) {
@@ -134,7 +128,7 @@ public final class EdgesFiresTest {
 
     // Promise 13: CATCHES: the minute from which on a house is on FIRE; NONE.
     private static void catchesMinute() {
-        UnlikeRoofs x = Due.town("sort 5 9;" + ROW + ALL_ALIKE);
+        UnlikeRoofs x = Due.town("sort 5 9;" + Edge.ROW + Edge.ALL_ALIKE);
         Due.is("the first minute", x.catches(7, 7), 0);
         Due.is("the last minute", x.catches(7, 0), 7);
         x.roof(3, -9);
@@ -145,7 +139,7 @@ public final class EdgesFiresTest {
 
     // Promise 14: LOST: how many burn; the PRICES of their ROOFS, added.
     private static void lost() {
-        UnlikeRoofs x = Due.town("sort 99 9;" + ROW + ALL_ALIKE);
+        UnlikeRoofs x = Due.town("sort 99 9;" + Edge.ROW + Edge.ALL_ALIKE);
         Due.is("all", x.fire(4, 0), 8);
         Due.is("all of the dearest", x.fire(4, 1), 792);
         x.roof(1, -9);
@@ -160,7 +154,7 @@ public final class EdgesFiresTest {
     // Promise 14: LASTS: the minute from which on nothing burns.
     private static void lasts() {
         Due.is("the least", Due.town("sort 1 1;house 0 0;roof 0 0;").fire(0, 2), 1);
-        UnlikeRoofs x = Due.town("sort 1 9;" + ROW + ALL_ALIKE);
+        UnlikeRoofs x = Due.town("sort 1 9;" + Edge.ROW + Edge.ALL_ALIKE);
         Due.is("the most", x.fire(0, 2), 16);
         Due.is("from the middle", x.fire(4, 2), 13);
         x.wind(1);
@@ -180,7 +174,7 @@ public final class EdgesFiresTest {
     // Promise 13: BAD;
     private static void catchesBad() {
         UnlikeRoofs x = Due.town(MIXED);
-        for (int none : new int[] {-1, -9, 4, LEAST, GREATEST}) {
+        for (int none : Edge.noneOf(4)) {
             Due.is("from " + none, x.catches(none, 0), -1);
             Due.is("house " + none, x.catches(0, none), -1);
             Due.is("BAD ahead of STATE: house " + none, x.catches(3, none), -1);
@@ -213,11 +207,11 @@ public final class EdgesFiresTest {
     // Promise 14: BAD;
     private static void fireBad() {
         UnlikeRoofs x = Due.town(MIXED);
-        for (int what : new int[] {-1, 3, -9, LEAST, GREATEST}) {
+        for (int what : Edge.noneOf(3)) {
             Due.is("what " + what, x.fire(0, what), -1);
             Due.is("BAD ahead of STATE: what " + what, x.fire(2, what), -1);
         }
-        for (int from : new int[] {-1, -9, 4, LEAST, GREATEST}) {
+        for (int from : Edge.noneOf(4)) {
             Due.is("from " + from, x.fire(from, 0), -1);
         }
         Due.is("what 0", x.fire(0, 0), 2);
@@ -238,7 +232,7 @@ public final class EdgesFiresTest {
 
     // Promise 15: WORST: the house in which a FIRE would cost most (PRICES LOST), of several the least;
     private static void worstHouse() {
-        UnlikeRoofs x = Due.town("sort 3 1;sort 6 1;sort 7 1;sort 99 0;" + ROW
+        UnlikeRoofs x = Due.town("sort 3 1;sort 6 1;sort 7 1;sort 99 0;" + Edge.ROW
             + "roof 0 3;roof 1 0;roof 2 0;roof 4 1;roof 6 3;");
         Due.is("6 and 6: the least house", x.worst(), 1);
         x.roof(6, 2);
@@ -286,7 +280,7 @@ public final class EdgesFiresTest {
 
     // Promise 16: MEAN: upper (what = 0), lower number (1), in least terms.
     private static void meanLeastTerms() {
-        UnlikeRoofs x = Due.town("sort 99 1;sort 1 1;sort 2 1;sort 3 1;" + ROW + ALL_ALIKE);
+        UnlikeRoofs x = Due.town("sort 99 1;sort 1 1;sort 2 1;sort 3 1;" + Edge.ROW + Edge.ALL_ALIKE);
         Due.is("8 times 792 of 8: upper", x.mean(0), 792);
         Due.is("8 times 792 of 8: lower", x.mean(1), 1);
         UnlikeRoofs y = Due.town("sort 1 1;sort 2 1;sort 5 1;house 0 0;house 3 0;house 6 0;house 0 3;house 3 3;"
@@ -310,8 +304,8 @@ public final class EdgesFiresTest {
     // Promise 16: NO: BAD,
     private static void meanBad() {
         UnlikeRoofs x = Due.town(MIXED);
-        for (int what : new int[] {-1, 2, -9, LEAST, GREATEST}) {
-            Due.is("what " + what, x.mean(what), NO);
+        for (int what : Edge.noneOf(2)) {
+            Due.is("what " + what, x.mean(what), Edge.NO);
         }
         Due.is("what 0", x.mean(0), 6);
         Due.is("what 1", x.mean(1), 1);
@@ -320,13 +314,13 @@ public final class EdgesFiresTest {
     // Promise 16: or nothing can burn.
     private static void meanNothingBurns() {
         UnlikeRoofs x = Due.town("sort 5 0;sort 5 1;house 0 0;house 1 0;roof 0 0;");
-        Due.is("upper", x.mean(0), NO);
-        Due.is("lower", x.mean(1), NO);
+        Due.is("upper", x.mean(0), Edge.NO);
+        Due.is("lower", x.mean(1), Edge.NO);
         x.roof(1, 1);
         Due.is("one can: upper", x.mean(0), 5);
         Due.is("one can: lower", x.mean(1), 1);
-        Due.is("no houses: upper", new UnlikeRoofs().mean(0), NO);
-        Due.is("no houses: lower", new UnlikeRoofs().mean(1), NO);
+        Due.is("no houses: upper", new UnlikeRoofs().mean(0), Edge.NO);
+        Due.is("no houses: lower", new UnlikeRoofs().mean(1), Edge.NO);
     }
 
     // Promises 17 and 28: BEGAN: SEEN (8 at most):
@@ -349,7 +343,7 @@ public final class EdgesFiresTest {
 
     // Promises 17 and 19: a house was on FIRE first at a minute (0 .. 99), or never (NONE):
     private static void sawMinutes() {
-        UnlikeRoofs x = Due.town("sort 5 1;" + ROW + ALL_ALIKE);
+        UnlikeRoofs x = Due.town("sort 5 1;" + Edge.ROW + Edge.ALL_ALIKE);
         Due.is("minute -1", x.saw(7, -1), -1);
         Due.is("minute 0", x.saw(7, 0), 1);
         Due.is("at minute 0: itself", x.began(), 128);
@@ -382,11 +376,11 @@ public final class EdgesFiresTest {
     // Promise 17: BAD;
     private static void sawBad() {
         UnlikeRoofs x = Due.town("sort 5 1;house 0 0;house 1 0;roof 0 0;");
-        for (int h : new int[] {-1, -9, 2, LEAST, GREATEST}) {
+        for (int h : Edge.noneOf(2)) {
             Due.is("house " + h, x.saw(h, 0), -1);
             Due.is("house " + h + " never", x.saw(h, -9), -1);
         }
-        for (int minute : new int[] {-1, -8, -10, 100, LEAST, GREATEST}) {
+        for (int minute : new int[] {-1, -8, -10, 100, Edge.LEAST, Edge.GREATEST}) {
             Due.is("minute " + minute, x.saw(0, minute), -1);
         }
         Due.is("nothing was seen", x.count(4), 0);
@@ -458,7 +452,7 @@ public final class EdgesFiresTest {
 
     // Promise 19: BEGAN, as bits.
     private static void beganBits() {
-        UnlikeRoofs x = Due.town("sort 5 1;" + ROW + ALL_ALIKE);
+        UnlikeRoofs x = Due.town("sort 5 1;" + Edge.ROW + Edge.ALL_ALIKE);
         Due.is("all eight", x.began(), 255);
         x.saw(0, 7);
         Due.is("the eighth", x.began(), 128);

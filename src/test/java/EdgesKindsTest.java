@@ -1,8 +1,5 @@
 /** Promises 25 to 27 and 29, and what holds of all calls, at their edges, a sentence a test: RATE, IMAGES, refusals. */
 public final class EdgesKindsTest {
-    private static final int LEAST = Integer.MIN_VALUE;
-    private static final int GREATEST = Integer.MAX_VALUE;
-    private static final int NO = -1000000;
     /** House 0 has all neighbours, house 7 none; houses 1 and 7 have no ROOF. */
     private static final String TOWN = "sort 99 9;sort 1 0;house 3 3;house 2 3;house 4 3;house 3 2;house 3 4;"
         + "house 0 0;house 7 7;house 0 7;roof 0 0;roof 2 1;roof 5 1;wind up;";
@@ -52,8 +49,8 @@ public final class EdgesKindsTest {
             rates(x, kind, 0, zero[kind]);
             rates(x, kind, 2, two[kind]);
         }
-        Due.is("kind -1", x.rate(-1, 0), NO);
-        Due.is("kind 6", x.rate(6, 0), NO);
+        Due.is("kind -1", x.rate(-1, 0), Edge.NO);
+        Due.is("kind 6", x.rate(6, 0), Edge.NO);
     }
 
     // Promises 25 and 29: RATE of a house as if of a KIND (numbers in brackets are added to THE TRACE, 0 at first, as
@@ -140,15 +137,15 @@ public final class EdgesKindsTest {
     // Promise 25: NO: BAD.
     private static void rateBad() {
         UnlikeRoofs x = Due.town(TOWN);
-        for (int kind : new int[] {-1, 6, -9, LEAST, GREATEST}) {
-            Due.is("kind " + kind, x.rate(kind, 0), NO);
+        for (int kind : Edge.noneOf(6)) {
+            Due.is("kind " + kind, x.rate(kind, 0), Edge.NO);
         }
-        for (int h : new int[] {-1, 8, -9, LEAST, GREATEST}) {
+        for (int h : Edge.noneOf(8)) {
             for (int kind = 0; kind <= 5; kind++) {
-                Due.is("kind " + kind + ", house " + h, x.rate(kind, h), NO);
+                Due.is("kind " + kind + ", house " + h, x.rate(kind, h), Edge.NO);
             }
         }
-        Due.is("no house at all", new UnlikeRoofs().rate(0, 0), NO);
+        Due.is("no house at all", new UnlikeRoofs().rate(0, 0), Edge.NO);
         Due.is("no trace of these", x.trace(), 0);
         Due.is("the first of all", x.rate(0, 0), 99);
         Due.is("the last of all", x.rate(5, 7), -7);
@@ -171,7 +168,7 @@ public final class EdgesKindsTest {
     // Promises 26 and 27: IMAGES 0, 1 keep ROOFS, WIND, THE LOT, what was SEEN; nothing else.
     private static void imagesKeep() {
         UnlikeRoofs x = Due.town("sort 5 1;sort 6 1;house 0 0;house 1 0;bound 0 0;roof 1 0;wind down;");
-        x.lot(LEAST);
+        x.lot(Edge.LEAST);
         x.saw(1, 1);
         x.rate(0, 0);
         Due.is("keep 0", x.keep(0), 1);
@@ -179,27 +176,35 @@ public final class EdgesKindsTest {
         x.roof(1, 1);
         x.wind(0);
         x.lot(-1);
-        x.saw(1, -9);
+        x.forget();
+        x.saw(1, 0);
+        x.saw(0, -9);
         x.rate(0, 0);
         Due.is("keep 1", x.keep(1), 2);
         x.forget();
+        x.saw(0, 99);
+        x.saw(1, 99);
         Due.type(x, "wind up;");
         x.rate(0, 0);
         Due.is("back 0", x.back(0), 1);
         Due.is("0: a roof that was taken off", x.house(0, 2), 0);
         Due.is("0: a roof that was another", x.house(1, 2), 0);
-        Due.is("0: what was seen", x.began(), 1);
-        Due.is("0: the lot", x.lot(7), LEAST);
+        Due.is("0: house 1 was seen at 1", x.began(), 1);
+        Due.is("0: the lot", x.lot(7), Edge.LEAST);
         Due.is("0: the wind", x.wind(1), 2);
         Due.is("0: not the text", x.count(5), 8);
         Due.is("0: not the trace", x.trace(), 3);
         Due.is("back 1", x.back(1), 2);
         Due.is("1: no roof", x.house(0, 2), -9);
         Due.is("1: another roof", x.house(1, 2), 1);
-        Due.is("1: what was seen", x.began(), 0);
+        Due.is("1: house 1 was seen at 0, house 0 never", x.began(), 2);
         Due.is("1: the lot", x.lot(7), -1);
         Due.is("1: the wind", x.wind(1), 0);
         Due.is("1: bound still", x.house(0, 3), 0);
+        x.roof(0, 0);
+        x.saw(0, 0);
+        Due.is("0 again", x.back(0), 1);
+        Due.is("0 again: what was seen", x.began(), 1);
     }
 
     // Promises 4, 27 and 29: (Read anew: nothing SEEN, IMAGES are gone; THE LOT stays; THE TRACE goes on, as behind
@@ -249,15 +254,15 @@ public final class EdgesKindsTest {
         Due.is("-2 is paid", x.pays(0), -2);
         x.roof(1, 3);
         Due.is("-9 is paid", x.pays(0), -9);
-        Due.is("nobody pays", x.pays(2), NO);
+        Due.is("nobody pays", x.pays(2), Edge.NO);
         x.roof(0, -9);
         Due.is("-1 is the rate", x.rate(2, 0), -1);
-        Due.is("no rate", x.rate(2, 2), NO);
+        Due.is("no rate", x.rate(2, 2), Edge.NO);
         x.roof(0, 2);
         x.lot(0);
         Due.is("-5 is saved", x.years(1, 0), -5);
-        Due.is("no years", x.years(0, 0), NO);
-        Due.is("no mean", x.mean(2), NO);
+        Due.is("no years", x.years(0, 0), Edge.NO);
+        Due.is("no mean", x.mean(2), Edge.NO);
     }
 
     /** House 0 is BOUND to 0, house 1 to 1, which does not burn, house 7 has no ROOF; all is full, image 1 is not. */
@@ -337,7 +342,7 @@ public final class EdgesKindsTest {
         }
         for (int i = 0; i <= 6; i++) {
             UnlikeRoofs x = full();
-            Due.is("NO " + i, askForNoNumber(x, i), NO);
+            Due.is("NO " + i, askForNoNumber(x, i), Edge.NO);
             Due.alike("behind NO " + i, x, full());
         }
     }
@@ -412,7 +417,7 @@ public final class EdgesKindsTest {
     // Promise 26: BAD.
     private static void keepBad() {
         UnlikeRoofs x = Due.town(TOWN);
-        for (int image : new int[] {-1, 2, -9, LEAST, GREATEST}) {
+        for (int image : Edge.noneOf(2)) {
             Due.is("image " + image, x.keep(image), -1);
         }
         Due.is("none was kept: 0", x.back(0), -2);
@@ -444,7 +449,7 @@ public final class EdgesKindsTest {
         UnlikeRoofs x = Due.town(TOWN);
         x.keep(0);
         x.keep(1);
-        for (int image : new int[] {-1, 2, -9, LEAST, GREATEST}) {
+        for (int image : Edge.noneOf(2)) {
             Due.is("image " + image, x.back(image), -1);
             Due.is("image " + image + " where none was kept", new UnlikeRoofs().back(image), -1);
         }

@@ -1,13 +1,5 @@
 /** Promises 9 to 12, and section 2, at their edges, a sentence a test: BREACHES, CHEAPEST, WAYS, BOUND by law. */
 public final class EdgesLawsTest {
-    private static final int LEAST = Integer.MIN_VALUE;
-    private static final int GREATEST = Integer.MAX_VALUE;
-    private static final int[] NO_SPARKS = {-1, 2, -9, LEAST, GREATEST};
-    /** Eight of which no two are near one another. */
-    private static final String WIDE = "house 0 0;house 3 0;house 6 0;house 0 3;house 3 3;house 6 3;house 0 6;"
-        + "house 3 6;";
-    private static final String BLOCK = "house 0 0;house 1 0;house 2 0;house 3 0;house 0 1;house 1 1;house 2 1;"
-        + "house 3 1;";
 
     public static void main(String[] args) {
         lawOfTouch();
@@ -98,10 +90,10 @@ public final class EdgesLawsTest {
         for (int h = 0; h < 8; h++) {
             roofs.append("roof ").append(h).append(" 0;");
         }
-        UnlikeRoofs x = Due.town("sort 5 1;" + BLOCK + roofs);
+        UnlikeRoofs x = Due.town("sort 5 1;" + Edge.BLOCK + roofs);
         Due.is("ten that touch", x.breaches(0), 10);
         Due.is("and four by sparks", x.breaches(1), 14);
-        Due.is("none", Due.town("sort 5 1;" + WIDE + roofs).breaches(1), 0);
+        Due.is("none", Due.town("sort 5 1;" + Edge.WIDE + roofs).breaches(1), 0);
         Due.is("a pair once", Due.town("sort 5 1;house 0 0;house 0 1;roof 0 0;roof 1 0;").breaches(0), 1);
         Due.is("no houses", new UnlikeRoofs().breaches(1), 0);
     }
@@ -116,7 +108,7 @@ public final class EdgesLawsTest {
     // Promise 9: BAD.
     private static void breachesBad() {
         UnlikeRoofs x = Due.town("sort 5 1;house 0 0;house 1 0;roof 0 0;roof 1 0;");
-        for (int sparks : NO_SPARKS) {
+        for (int sparks : Edge.noFlags()) {
             Due.is("breaches " + sparks, x.breaches(sparks), -1);
             Due.is("breaches of nothing " + sparks, new UnlikeRoofs().breaches(sparks), -1);
         }
@@ -126,7 +118,7 @@ public final class EdgesLawsTest {
 
     // Promise 10: CHEAPEST: ROOFS for all houses (BOUND ones as BOUND) that are LAWFUL, of the least PRICES, added;
     private static void cheapestRoofs() {
-        Due.is("eight of the dearest", Due.town("sort 99 0;" + WIDE).cheapest(1, -1), 792);
+        Due.is("eight of the dearest", Due.town("sort 99 0;" + Edge.WIDE).cheapest(1, -1), 792);
         Due.is("no house", Due.town("sort 99 0;").cheapest(1, -1), 0);
         UnlikeRoofs x = Due.town("sort 1 0;sort 9 0;sort 99 0;house 0 0;house 1 0;house 7 7;bound 0 2;");
         Due.is("a bound one is as bound", x.cheapest(0, 0), 2);
@@ -177,7 +169,7 @@ public final class EdgesLawsTest {
 
     // Promise 10: CHEAPEST: PRICES (h = -1), the SORT of house h; NONE.
     private static void cheapestAnswers() {
-        UnlikeRoofs x = Due.town("sort 9 0;sort 2 0;" + WIDE);
+        UnlikeRoofs x = Due.town("sort 9 0;sort 2 0;" + Edge.WIDE);
         Due.is("prices", x.cheapest(1, -1), 16);
         Due.is("house 0", x.cheapest(1, 0), 1);
         Due.is("house 7", x.cheapest(1, 7), 1);
@@ -189,11 +181,11 @@ public final class EdgesLawsTest {
     // Promise 10: BAD.
     private static void cheapestBad() {
         UnlikeRoofs x = Due.town("sort 9 0;sort 2 0;house 0 0;house 1 0;");
-        for (int sparks : NO_SPARKS) {
+        for (int sparks : Edge.noFlags()) {
             Due.is("sparks " + sparks, x.cheapest(sparks, -1), -1);
             Due.is("sparks " + sparks + ", house 0", x.cheapest(sparks, 0), -1);
         }
-        for (int h : new int[] {-2, -9, 2, LEAST, GREATEST}) {
+        for (int h : new int[] {-2, -9, 2, Edge.LEAST, Edge.GREATEST}) {
             Due.is("house " + h, x.cheapest(0, h), -1);
             Due.is("house " + h + " of a town without a row", Due.town("house 0 0;").cheapest(0, h), -1);
         }
@@ -205,11 +197,11 @@ public final class EdgesLawsTest {
     // Promise 11: WAYS: how many LAWFUL ones there are.
     private static void waysHowMany() {
         String four = "sort 1 0;sort 1 0;sort 1 0;sort 1 0;";
-        Due.is("the most", Due.town(four + WIDE).ways(1), 65536);
-        Due.is("two rows of four", Due.town(four + BLOCK).ways(0), 4116);
+        Due.is("the most", Due.town(four + Edge.WIDE).ways(1), 65536);
+        Due.is("two rows of four", Due.town(four + Edge.BLOCK).ways(0), 4116);
         Due.is("one short of three", Due.town("sort 1 0;sort 1 0;house 0 0;house 1 0;house 2 0;").ways(1), 0);
         Due.is("three of three", Due.town("sort 1 0;sort 1 0;sort 1 0;house 0 0;house 1 0;house 2 0;").ways(1), 6);
-        Due.is("a bound one has one", Due.town(four + WIDE + "bound 7 3;").ways(1), 16384);
+        Due.is("a bound one has one", Due.town(four + Edge.WIDE + "bound 7 3;").ways(1), 16384);
         UnlikeRoofs all = Due.town("sort 1 0;sort 1 0;house 0 0;house 1 0;bound 0 0;bound 1 1;");
         Due.is("all bound", all.ways(1), 1);
         all.roof(0, -9);
@@ -231,7 +223,7 @@ public final class EdgesLawsTest {
     // Promise 11: BAD.
     private static void waysBad() {
         UnlikeRoofs x = Due.town("sort 1 0;sort 1 0;house 0 0;house 2 0;");
-        for (int sparks : NO_SPARKS) {
+        for (int sparks : Edge.noFlags()) {
             Due.is("ways " + sparks, x.ways(sparks), -1);
         }
         Due.is("ways 0", x.ways(0), 4);
@@ -249,7 +241,7 @@ public final class EdgesLawsTest {
         // All LAWFUL ones, not the cheapest alone: two SORTS are left for it.
         UnlikeRoofs y = Due.town("sort 9 0;sort 5 0;sort 1 0;house 0 0;house 1 0;bound 0 0;");
         Due.is("two are left", y.must(0, 1), -9);
-        Due.is("the last house of eight", Due.town("sort 5 0;" + WIDE).must(1, 7), 0);
+        Due.is("the last house of eight", Due.town("sort 5 0;" + Edge.WIDE).must(1, 7), 0);
         // Nothing beside it is bound, but two sorts go round.
         UnlikeRoofs row = Due.town("sort 5 0;sort 5 0;house 0 0;house 1 0;house 2 0;house 3 0;bound 3 0;");
         Due.is("three off", row.must(0, 0), 1);
@@ -272,10 +264,10 @@ public final class EdgesLawsTest {
     // Promise 12: BAD.
     private static void mustBad() {
         UnlikeRoofs x = Due.town("sort 5 0;house 0 0;house 3 0;");
-        for (int sparks : NO_SPARKS) {
+        for (int sparks : Edge.noFlags()) {
             Due.is("sparks " + sparks, x.must(sparks, 0), -1);
         }
-        for (int h : new int[] {-1, -9, 2, LEAST, GREATEST}) {
+        for (int h : Edge.noneOf(2)) {
             Due.is("house " + h, x.must(0, h), -1);
             Due.is("house " + h + " of a town without a way", Due.town("house 0 0;").must(0, h), -1);
         }

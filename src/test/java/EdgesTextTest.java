@@ -1,8 +1,6 @@
 /** Promises 1 to 4 at their edges, a sentence of the document a test: a new object, THE TEXT and its FAULTS. */
 public final class EdgesTextTest {
     private static final String FOUR_SORTS = "sort 1 1;sort 2 1;sort 3 1;sort 4 1;";
-    private static final String EIGHT_HOUSES = "house 0 0;house 1 0;house 2 0;house 3 0;house 4 0;house 5 0;house 6 0;"
-        + "house 7 0;";
     /** Two SORTS, two HOUSES: what ROOFS need. */
     private static final String BARE = "sort 1 1;sort 2 1;house 0 0;house 1 0;";
 
@@ -15,6 +13,7 @@ public final class EdgesTextTest {
         bytesAtMost();
         clearEmpties();
         townTellsAll();
+        townLeavesNothing();
         townFault();
         blanks();
         blanksNeeded();
@@ -154,7 +153,7 @@ public final class EdgesTextTest {
 
     // Promise 4: THE TEXT tells all, and is empty then: how many ITEMS.
     private static void townTellsAll() {
-        UnlikeRoofs x = Due.town(FOUR_SORTS + EIGHT_HOUSES + "bound 0 3;wind up;");
+        UnlikeRoofs x = Due.town(FOUR_SORTS + Edge.ROW + "bound 0 3;wind up;");
         Due.is("empty then", x.count(5), 0);
         Due.is("an empty text has none", x.town(), 0);
         Due.is("and tells all: no house", x.count(0), 0);
@@ -163,11 +162,49 @@ public final class EdgesTextTest {
         Due.type(x, "sort1 1;house0 0;" + "roof0 0;".repeat(35));
         Due.is("as many as go into 300 bytes", x.town(), 37);
         Due.is("one house", x.count(0), 1);
+        Due.is("bound to none", x.house(0, 3), -9);
+        Due.is("no wind again", x.wind(0), 0);
         Due.type(x, "wind left;");
         Due.is("one", x.town(), 1);
         Due.is("its house is gone", x.house(0, 0), -1);
         Due.is("its sort is gone", x.sort(0, 0), -1);
         Due.is("its wind is told", x.wind(0), 3);
+    }
+
+    // Promises 4, 10, 11, 12 and 20: THE TEXT tells all,
+    private static void townLeavesNothing() {
+        String dear = "sort 99 9;sort 98 9;sort 97 9;sort 96 9;" + Edge.ROW
+            + "roof 0 0;roof 1 1;roof 2 0;roof 3 1;roof 4 0;roof 5 1;roof 6 0;roof 7 1;";
+        for (String cheap : new String[] {"house 0 0;", "house 0 0;house 1 0;", "house 0 0;house 7 7;house 1 0;"}) {
+            String text = "sort 9 1;sort 5 1;sort 1 1;" + cheap;
+            UnlikeRoofs x = Due.town(dear);
+            x.change(7, 0, 0, -1);
+            x.cheapest(1, -1);
+            Due.type(x, text);
+            x.town();
+            sameAnswers(text, x, Due.town(text));
+        }
+    }
+
+    /** Nothing that an object was asked before may come into what it answers: neither of a town nor of a call. */
+    private static void sameAnswers(String text, UnlikeRoofs x, UnlikeRoofs y) {
+        int houses = y.count(0);
+        for (int h = 0; h < houses; h++) {
+            Due.is("no roofs yet: " + text, x.change(h, 0, 0, -1), -2);
+            Due.is("roof " + h + ": " + text, x.roof(h, h % 2), y.roof(h, h % 2));
+        }
+        for (int h = -1; h < houses; h++) {
+            Due.is("cheapest " + h + ": " + text, x.cheapest(0, h), y.cheapest(0, h));
+            Due.is("ways: " + text, x.ways(1), y.ways(1));
+        }
+        for (int h = 0; h < houses; h++) {
+            for (int s = 0; s < 3; s++) {
+                x.cheapest(1, -1);
+                Due.is("change " + h + " " + s + ": " + text, x.change(h, s, 0, -1), y.change(h, s, 0, -1));
+                x.change(h, s, 1, h);
+                Due.is("must " + h + ": " + text, x.must(0, h), y.must(0, h));
+            }
+        }
     }
 
     // Promise 4: -10 less FAULT: nothing changes (THE TEXT stays, too).
@@ -321,9 +358,9 @@ public final class EdgesTextTest {
             Due.reads(BARE + item + "1 1;", 5);
             Due.fault(BARE + item + "^2 1;");
             Due.fault(BARE + item + "1 ^2;");
-            Due.reads(FOUR_SORTS + EIGHT_HOUSES + item + "7 3;", 13);
-            Due.fault(FOUR_SORTS + EIGHT_HOUSES + item + "^8 3;");
-            Due.fault(FOUR_SORTS + EIGHT_HOUSES + item + "7 ^4;");
+            Due.reads(FOUR_SORTS + Edge.ROW + item + "7 3;", 13);
+            Due.fault(FOUR_SORTS + Edge.ROW + item + "^8 3;");
+            Due.fault(FOUR_SORTS + Edge.ROW + item + "7 ^4;");
         }
     }
 
@@ -378,10 +415,10 @@ public final class EdgesTextTest {
 
     // Promise 4: a ninth house,
     private static void ninthHouse() {
-        Due.reads(EIGHT_HOUSES, 8);
-        Due.fault(EIGHT_HOUSES + "^house 0 1;");
-        Due.fault(EIGHT_HOUSES + "^house");
-        Due.fault(EIGHT_HOUSES + "sort 1 1;^house 0 0;");
+        Due.reads(Edge.ROW, 8);
+        Due.fault(Edge.ROW + "^house 0 1;");
+        Due.fault(Edge.ROW + "^house");
+        Due.fault(Edge.ROW + "sort 1 1;^house 0 0;");
     }
 
     // Promise 4: a Y where a house is,
@@ -390,8 +427,8 @@ public final class EdgesTextTest {
         Due.fault("house 5 2;house 5 ^2;");
         Due.fault("house 5 2;house 5 ^2");
         Due.fault("house 5 2;house 5^");
-        Due.fault(EIGHT_HOUSES.replace("house 7 0;", "house 0 ^0;"));
-        Due.fault(EIGHT_HOUSES.replace("house 7 0;", "house 6 ^0;"));
+        Due.fault(Edge.ROW.replace("house 7 0;", "house 0 ^0;"));
+        Due.fault(Edge.ROW.replace("house 7 0;", "house 6 ^0;"));
     }
 
     // Promise 4: a roof of a house BOUND to another SORT (at S),
@@ -421,6 +458,9 @@ public final class EdgesTextTest {
         Due.type(x, "wind up;");
         Due.is("in a text of its own it is not told again", x.town(), 1);
         Due.is("and it stands", x.wind(0), 4);
+        Due.type(x, "wind down;");
+        Due.is("nor in a third one", x.town(), 1);
+        Due.is("that stands, too", x.wind(0), 2);
     }
 
     // Promise 4: a NUMBER beyond what it may be, too);

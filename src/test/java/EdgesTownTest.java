@@ -1,11 +1,6 @@
 /** Promises 5 to 8 and 28, and section 1, at their edges, a sentence a test: cells, SORTS, ROOFS, WIND, counts. */
 public final class EdgesTownTest {
-    private static final int LEAST = Integer.MIN_VALUE;
-    private static final int GREATEST = Integer.MAX_VALUE;
     private static final String FOUR_SORTS = "sort 99 0;sort 98 1;sort 2 8;sort 1 9;";
-    /** Two rows of four: as many pairs that TOUCH as eight HOUSES can have. */
-    private static final String BLOCK = "house 0 0;house 1 0;house 2 0;house 3 0;house 0 1;house 1 1;house 2 1;"
-        + "house 3 1;";
 
     public static void main(String[] args) {
         cells();
@@ -53,11 +48,11 @@ public final class EdgesTownTest {
 
     // Promises 4, 5 and 28: HOUSES 0 .. (8 at most), each on a cell of its own.
     private static void houses() {
-        UnlikeRoofs x = Due.town(BLOCK);
+        UnlikeRoofs x = Due.town(Edge.BLOCK);
         Due.is("eight", x.count(0), 8);
         Due.is("house 7", x.house(7, 0), 3);
         Due.is("no house 8", x.house(8, 0), -1);
-        Due.fault(BLOCK + "^house 7 7;");
+        Due.fault(Edge.BLOCK + "^house 7 7;");
         Due.reads("house 1 1;house 1 2;", 2);
         Due.fault("house 1 1;house 1 ^1;");
         Due.is("none", Due.town("").count(0), 0);
@@ -136,7 +131,8 @@ public final class EdgesTownTest {
         }
     }
 
-    // Promises 8 and 13: SPARKS: in WIND a house throws them over one cell: to the house two cells off in that direction.
+    // Promises 8 and 13: SPARKS: in WIND a house throws them over one cell: to the house two cells off in that
+    // direction.
     private static void sparks() {
         String town = "sort 1 1;house 3 3;house 5 3;house 3 5;house 1 3;house 3 1;house 6 3;house 3 6;house 4 5;"
             + "roof 0 0;roof 1 0;roof 2 0;roof 3 0;roof 4 0;roof 7 0;";
@@ -196,17 +192,17 @@ public final class EdgesTownTest {
 
     // Promise 5: BAD.
     private static void houseBad() {
-        UnlikeRoofs x = Due.town(BLOCK);
+        UnlikeRoofs x = Due.town(Edge.BLOCK);
         UnlikeRoofs one = Due.town("house 4 5;");
         UnlikeRoofs none = new UnlikeRoofs();
         for (int what = 0; what <= 4; what++) {
-            for (int h : new int[] {-1, -9, 8, LEAST, GREATEST}) {
+            for (int h : Edge.noneOf(8)) {
                 Due.is("house " + h + " " + what, x.house(h, what), -1);
             }
             Due.is("of one: house 1 " + what, one.house(1, what), -1);
             Due.is("of none: house 0 " + what, none.house(0, what), -1);
         }
-        for (int what : new int[] {-1, 5, LEAST, GREATEST}) {
+        for (int what : new int[] {-1, 5, Edge.LEAST, Edge.GREATEST}) {
             Due.is("what " + what, one.house(0, what), -1);
         }
         Due.is("what 0", one.house(0, 0), 4);
@@ -230,13 +226,13 @@ public final class EdgesTownTest {
         UnlikeRoofs one = Due.town("sort 7 3;");
         UnlikeRoofs none = new UnlikeRoofs();
         for (int what = 0; what <= 1; what++) {
-            for (int s : new int[] {-1, -9, 4, LEAST, GREATEST}) {
+            for (int s : Edge.noneOf(4)) {
                 Due.is("sort " + s + " " + what, x.sort(s, what), -1);
             }
             Due.is("of one: sort 1 " + what, one.sort(1, what), -1);
             Due.is("of none: sort 0 " + what, none.sort(0, what), -1);
         }
-        for (int what : new int[] {-1, 2, LEAST, GREATEST}) {
+        for (int what : new int[] {-1, 2, Edge.LEAST, Edge.GREATEST}) {
             Due.is("what " + what, one.sort(0, what), -1);
         }
         Due.is("sort 0", one.sort(0, 0), 7);
@@ -263,11 +259,11 @@ public final class EdgesTownTest {
     // Promise 7: BAD;
     private static void roofBad() {
         UnlikeRoofs x = Due.town("sort 5 0;sort 5 1;house 0 0;house 1 0;roof 0 1;");
-        for (int h : new int[] {-1, -9, 2, LEAST, GREATEST}) {
+        for (int h : Edge.noneOf(2)) {
             Due.is("house " + h, x.roof(h, 0), -1);
             Due.is("house " + h + " none", x.roof(h, -9), -1);
         }
-        for (int s : new int[] {-1, -8, -10, 2, LEAST, GREATEST}) {
+        for (int s : new int[] {-1, -8, -10, 2, Edge.LEAST, Edge.GREATEST}) {
             Due.is("sort " + s, x.roof(0, s), -1);
         }
         Due.is("nothing changed", x.house(0, 2), 1);
@@ -304,7 +300,7 @@ public final class EdgesTownTest {
     // Promise 8: BAD.
     private static void windBad() {
         UnlikeRoofs x = Due.town("wind left;");
-        for (int w : new int[] {-1, 5, -9, LEAST, GREATEST}) {
+        for (int w : Edge.noneOf(5)) {
             Due.is("wind " + w, x.wind(w), -1);
         }
         Due.is("nothing changed", x.wind(0), 3);
@@ -315,8 +311,8 @@ public final class EdgesTownTest {
     // Promise 28: 0 HOUSES, 1 SORTS, 2 ROOFS that there are, 3 pairs that TOUCH, 4 SEEN, 5 bytes of THE TEXT.
     private static void countTells() {
         UnlikeRoofs none = new UnlikeRoofs();
-        UnlikeRoofs all = Due.town(FOUR_SORTS + BLOCK + "bound 0 0;roof 1 1;roof 2 1;roof 3 1;roof 4 1;roof 5 1;"
-            + "roof 6 1;roof 7 1;");
+        UnlikeRoofs all = Due.town(FOUR_SORTS + Edge.BLOCK + "bound 0 0;roof 1 1;roof 2 1;roof 3 1;roof 4 1;"
+            + "roof 5 1;roof 6 1;roof 7 1;");
         for (int i = 0; i < 8; i++) {
             all.saw(7, i);
         }
@@ -337,8 +333,8 @@ public final class EdgesTownTest {
 
     // Promise 28: BAD.
     private static void countBad() {
-        UnlikeRoofs x = Due.town(FOUR_SORTS + BLOCK);
-        for (int what : new int[] {-1, 6, -9, LEAST, GREATEST}) {
+        UnlikeRoofs x = Due.town(FOUR_SORTS + Edge.BLOCK);
+        for (int what : Edge.noneOf(6)) {
             Due.is("count " + what, x.count(what), -1);
         }
         Due.is("count 0", x.count(0), 8);

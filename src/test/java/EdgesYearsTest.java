@@ -1,15 +1,5 @@
 /** Promises 23 and 24, and what section 4 says of them, at their edges, a sentence a test: YEARS and THE LOT. */
 public final class EdgesYearsTest {
-    private static final int LEAST = Integer.MIN_VALUE;
-    private static final int GREATEST = Integer.MAX_VALUE;
-    private static final int NO = -1000000;
-    /** Eight of which no two are near one another. */
-    private static final String WIDE = "house 0 0;house 3 0;house 6 0;house 0 3;house 3 3;house 6 3;house 0 6;"
-        + "house 3 6;";
-    /** Eight of which a fire takes all, wherever it begins. */
-    private static final String BLOCK = "house 0 0;house 1 0;house 2 0;house 3 0;house 0 1;house 1 1;house 2 1;"
-        + "house 3 1;";
-    private static final String ALL_ALIKE = "roof 0 0;roof 1 0;roof 2 0;roof 3 0;roof 4 0;roof 5 0;roof 6 0;roof 7 0;";
     /** Lots whose first DRAW leaves 0, 1, .. 7 over by 8. */
     private static final int[] LOT_OF_HOUSE = {0, 4, 8, 3, 2, 11, 1, 5};
     /** Lots whose first DRAW leaves 0, 0, 0, 0, 0, 1, 1, 1, 1, 1 over by 2, the second 0, 1, 2, 3, 4, .. by 5. */
@@ -40,18 +30,18 @@ public final class EdgesYearsTest {
 
     // Promise 23: YEARS: n (1 .. 99) FIRES by THE LOT
     private static void yearsAtMost() {
-        UnlikeRoofs x = Due.town("sort 99 1;" + BLOCK);
-        Due.is("0", x.years(0, 0), NO);
+        UnlikeRoofs x = Due.town("sort 99 1;" + Edge.BLOCK);
+        Due.is("0", x.years(0, 0), Edge.NO);
         Due.is("1: one fire of eight", x.years(1, 0), 792);
         Due.is("2", x.years(2, 0), 2 * 792);
         Due.is("99", x.years(99, 0), 99 * 792);
-        Due.is("100", x.years(100, 0), NO);
+        Due.is("100", x.years(100, 0), Edge.NO);
     }
 
     // Promises 23 and 24: (it goes on, times 1103515245 and 12345, wrapped;
     private static void lotGoesOn() {
-        UnlikeRoofs x = Due.town("sort 99 1;" + BLOCK);
-        int[] lots = {1, 0, -1, GREATEST, LEAST};
+        UnlikeRoofs x = Due.town("sort 99 1;" + Edge.BLOCK);
+        int[] lots = {1, 0, -1, Edge.GREATEST, Edge.LEAST};
         // Two DRAWS on, and 198.
         int[] year = {-1770082073, -740551042, 288979989, -1858503659, 1406932606};
         int[] years = {1482877891, -508809014, 1794471377, -353012271, 1638674634};
@@ -96,7 +86,7 @@ public final class EdgesYearsTest {
     // Promise 23: in each the house by DRAW, left over by how many HOUSES,
     private static void houseByDraw() {
         for (int left = 0; left < 8; left++) {
-            UnlikeRoofs x = Due.town("sort 5 1;sort 9 0;" + WIDE);
+            UnlikeRoofs x = Due.town("sort 5 1;sort 9 0;" + Edge.WIDE);
             for (int h = 0; h < 8; h++) {
                 x.roof(h, 0);
                 Due.is(left + " left over, house " + h, after(x, LOT_OF_HOUSE[left], 1, 1), h == left ? -5 : 0);
@@ -143,8 +133,8 @@ public final class EdgesYearsTest {
 
     // Promise 23: (two DRAWS for each, whether it can burn or not):
     private static void twoDraws() {
-        UnlikeRoofs cold = Due.town("sort 5 0;sort 5 1;" + WIDE);
-        UnlikeRoofs hot = Due.town("sort 5 1;" + WIDE + ALL_ALIKE);
+        UnlikeRoofs cold = Due.town("sort 5 0;sort 5 1;" + Edge.WIDE);
+        UnlikeRoofs hot = Due.town("sort 5 1;" + Edge.WIDE + Edge.ALL_ALIKE);
         Due.is("nothing can burn", after(cold, 1, 1, 0), 0);
         Due.is("two draws on", cold.lot(0), -1770082073);
         Due.is("all can burn", after(hot, 1, 1, 0), 0);
@@ -158,7 +148,7 @@ public final class EdgesYearsTest {
     // Promise 23: PRICES LOST of all these as THE TOWN is, and, with the same DRAWS, if all HOUSES had ROOFS of one
     // SORT (BOUND ones, too):
     private static void allOfOneSort() {
-        UnlikeRoofs x = Due.town("sort 5 1;sort 7 1;sort 9 0;" + BLOCK + "bound 0 2;bound 7 1;roof 1 1;");
+        UnlikeRoofs x = Due.town("sort 5 1;sort 7 1;sort 9 0;" + Edge.BLOCK + "bound 0 2;bound 7 1;roof 1 1;");
         Due.is("one that can't burn, all of 0", after(x, LOT_OF_HOUSE[0], 1, 0), 40);
         Due.is("one that can't burn, all of 1", after(x, LOT_OF_HOUSE[0], 1, 1), 56);
         Due.is("one that can't burn, all of 2", after(x, LOT_OF_HOUSE[0], 1, 2), 0);
@@ -172,17 +162,17 @@ public final class EdgesYearsTest {
 
     // Promise 23: SAVED: the latter less the former.
     private static void saved() {
-        UnlikeRoofs bare = Due.town("sort 99 1;sort 1 0;" + BLOCK);
+        UnlikeRoofs bare = Due.town("sort 99 1;sort 1 0;" + Edge.BLOCK);
         Due.is("the most that can be saved", bare.years(99, 0), 78408);
         Due.is("nothing", bare.years(99, 1), 0);
-        UnlikeRoofs full = Due.town("sort 99 1;sort 1 0;" + BLOCK + ALL_ALIKE);
+        UnlikeRoofs full = Due.town("sort 99 1;sort 1 0;" + Edge.BLOCK + Edge.ALL_ALIKE);
         Due.is("the most that can be lost", full.years(99, 1), -78408);
         Due.is("what is alike on both sides", full.years(99, 0), 0);
     }
 
     // Promise 23: (THE TOWN and its WIND stay.)
     private static void townStays() {
-        String town = "sort 99 1;sort 1 0;" + BLOCK + "bound 0 1;roof 3 0;wind left;";
+        String town = "sort 99 1;sort 1 0;" + Edge.BLOCK + "bound 0 1;roof 3 0;wind left;";
         UnlikeRoofs x = Due.town(town);
         UnlikeRoofs y = Due.town(town);
         x.saw(3, 0);
@@ -209,33 +199,33 @@ public final class EdgesYearsTest {
     private static void yearsBad() {
         UnlikeRoofs x = Due.town("sort 5 1;sort 7 1;house 0 0;");
         x.lot(77);
-        for (int n : new int[] {0, -1, 100, LEAST, GREATEST}) {
-            Due.is(n + " years", x.years(n, 0), NO);
+        for (int n : new int[] {0, -1, 100, Edge.LEAST, Edge.GREATEST}) {
+            Due.is(n + " years", x.years(n, 0), Edge.NO);
         }
-        for (int s : new int[] {-1, -9, 2, LEAST, GREATEST}) {
-            Due.is("sort " + s, x.years(1, s), NO);
+        for (int s : Edge.noneOf(2)) {
+            Due.is("sort " + s, x.years(1, s), Edge.NO);
         }
         Due.is("nothing was drawn", x.lot(77), 77);
         Due.is("1 year", x.years(1, 0), 5);
         Due.is("99 years of the last sort", x.years(99, 1), 99 * 7);
-        Due.is("no sorts", Due.town("house 0 0;").years(1, 0), NO);
+        Due.is("no sorts", Due.town("house 0 0;").years(1, 0), Edge.NO);
     }
 
     // Promise 23: or no HOUSES.
     private static void yearsNoHouses() {
         UnlikeRoofs x = Due.town("sort 5 1;");
-        Due.is("no houses", x.years(1, 0), NO);
+        Due.is("no houses", x.years(1, 0), Edge.NO);
         Due.is("nothing was drawn", x.lot(1), 1);
         Due.type(x, "sort 5 1;house 0 0;");
         x.town();
         Due.is("one house", x.years(1, 0), 5);
-        Due.is("nothing at all", new UnlikeRoofs().years(99, 0), NO);
+        Due.is("nothing at all", new UnlikeRoofs().years(99, 0), Edge.NO);
     }
 
     // Promise 24: THE LOT becomes v: what it was.
     private static void lotBecomes() {
         UnlikeRoofs x = new UnlikeRoofs();
-        int[] lots = {0, -1, -9, NO, LEAST, GREATEST, 1};
+        int[] lots = {0, -1, -9, Edge.NO, Edge.LEAST, Edge.GREATEST, 1};
         int was = 1;
         for (int v : lots) {
             Due.is("lot " + v, x.lot(v), was);
