@@ -36,6 +36,8 @@ public final class LanguageTest {
     private CompilationUnitTree unit;
     private Trees trees;
     private int classes = 0;
+    private final Set<VariableElement> fields = new HashSet<>();
+    private Element outerClass;
 
     public static void main(String[] args) throws Exception {
         new LanguageTest().run();
@@ -61,6 +63,11 @@ public final class LanguageTest {
         rule(11, "some twelve classes, not " + classes, classes <= 12);
         recursion();
         face();
+        constants();
+    }
+
+    private static boolean isOuter(Element element) {
+        return element.getKind().isClass() && !element.getEnclosingElement().getKind().isClass();
     }
 
     private final class Rules extends TreePathScanner<Void, Void> {
@@ -77,7 +84,12 @@ public final class LanguageTest {
             classes++;
             Element element = trees.getElement(getCurrentPath());
             Set<Modifier> flags = element.getModifiers();
-            boolean outer = element.getEnclosingElement().getKind().isClass() == false;
+            boolean outer = isOuter(element);
+            if (outer) {
+                rule(1, "one public class, not " + tree.getSimpleName(), outerClass == null
+                    && tree.getSimpleName().contentEquals("UnlikeRoofs"));
+                outerClass = element;
+            }
             rule(2, tree.getSimpleName() + " is static and not open", outer
                 || flags.contains(Modifier.STATIC) && !flags.contains(Modifier.PUBLIC)
                 && !flags.contains(Modifier.PROTECTED));
@@ -106,6 +118,9 @@ public final class LanguageTest {
                 boolean row = tree.getInitializer() instanceof NewArrayTree array && array.getInitializers() != null;
                 rule(5, tree.getName() + " is final and a constant or a row",
                     flags.contains(Modifier.FINAL) && (constant || row));
+            }
+            if (element.getKind().isField() && isOuter(element.getEnclosingElement())) {
+                fields.add((VariableElement) element);
             }
             return super.visitVariable(tree, none);
         }
@@ -235,6 +250,28 @@ public final class LanguageTest {
                     || method.getModifiers().contains(Modifier.PRIVATE));
                 rule(1, sign + " bears no name of the face", !names.contains(method.getSimpleName().toString()));
             }
+        }
+        rule(1, "missing " + due, due.isEmpty());
+    }
+
+    /** Rule 1: the class, its constructor and its constants as the document tells them, and no other open field. */
+    private void constants() throws Exception {
+        rule(1, "public and final", outerClass.getModifiers().equals(Set.of(Modifier.PUBLIC, Modifier.FINAL)));
+        List<Element> made = outerClass.getEnclosedElements().stream()
+            .filter(e -> e.getSimpleName().contentEquals("<init>")).map(e -> (Element) e).toList();
+        rule(1, "one public constructor, without arguments", made.size() == 1
+            && made.get(0).getModifiers().contains(Modifier.PUBLIC) && made.get(0).toString().endsWith("()"));
+        Set<String> due = new HashSet<>();
+        Matcher lines = Pattern.compile("public static final int ([^;]*);").matcher(Files.readString(DOCUMENT));
+        while (lines.find()) {
+            due.addAll(List.of(lines.group(1).split(", ")));
+        }
+        Due.is("constants that the document tells", due.size(), 5);
+        for (VariableElement field : fields) {
+            boolean open = field.getModifiers().equals(Set.of(Modifier.PUBLIC, Modifier.STATIC, Modifier.FINAL));
+            String told = field.asType() + " " + field + " = " + field.getConstantValue();
+            rule(1, told + " is private or of the face", open && due.remove(told.replaceFirst("^int ", ""))
+                || field.getModifiers().contains(Modifier.PRIVATE));
         }
         rule(1, "missing " + due, due.isEmpty());
     }
